@@ -1,9 +1,6 @@
 /** Promises 1 to 9: a new object, the text, its faults, the letting and what is seen of it. */
 public final class LettingTest {
     private static final Due DUE = new Due("LettingTest");
-    /** All that a letting can hold: 67 letters. */
-    private static final String LONGEST =
-        "NH00H01H02H10H11W00061dW11569lW05335dW06411lW10219dO006O051O064O113";
 
     public static void main(String[] args) {
         constants();
@@ -104,13 +101,13 @@ public final class LettingTest {
         fault("NH00N", 4);
         fault("NH00X", 4);
         fault("NH00H00W", 6);
-        fault(LONGEST, -9);
-        for (int length = 1; length < LONGEST.length(); length++) {
-            boolean ends = "NHWO".indexOf(LONGEST.charAt(length)) >= 0;
-            fault(LONGEST.substring(0, length), ends ? -9 : length);
+        fault(Due.LONGEST, -9);
+        for (int length = 1; length < Due.LONGEST.length(); length++) {
+            boolean ends = "NHWO".indexOf(Due.LONGEST.charAt(length)) >= 0;
+            fault(Due.LONGEST.substring(0, length), ends ? -9 : length);
         }
         for (String more : new String[] {"N", "H", "W", "O", "0", "OOOOO"}) {
-            fault(LONGEST + more, 67);
+            fault(Due.LONGEST + more, 67);
         }
     }
 
@@ -199,7 +196,7 @@ public final class LettingTest {
     private static void letting() {
         DUE.same("letting N", Due.written("N").letting(), 0);
         DUE.same("letting of one wish", Due.written("NW00011d").letting(), 1);
-        NightNet net = Due.written(LONGEST);
+        NightNet net = Due.written(Due.LONGEST);
         DUE.same("nothing is let yet", net.count(5), 0);
         DUE.same("letting of the longest", net.letting(), 5);
         DUE.same("letters stay", net.count(0), 67);
