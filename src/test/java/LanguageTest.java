@@ -22,6 +22,13 @@ public final class LanguageTest {
         "int storm(int)", "int keep(int)", "int again(int)", "int count(int)",
     };
 
+    private static final Set<String> OF_OBJECTS =
+        Set.of("boolean equals(class java.lang.Object)", "int hashCode()", "class java.lang.String toString()");
+    /** The library's functions and classes that rule 4 lists; of those over numbers it lists no names, so they are free. */
+    private static final Pattern LISTED = Pattern.compile(
+        "(Math|Integer|Long)\\.\\w+|System\\.arraycopy|Arrays\\.(copyOf|copyOfRange|fill)|List\\.of");
+    private static final Set<String> IMPORTS = Set.of("ArrayList", "Arrays", "Iterator", "List");
+
     public static void main(String[] args) throws IOException {
         String source = Files.readString(Path.of("src/main/java/NightNet.java"));
         face();
@@ -84,7 +91,8 @@ public final class LanguageTest {
                 && !Modifier.isPublic(one.getModifiers()) && !Modifier.isProtected(one.getModifiers()));
             holdsFields(one);
             for (Method method : one.getDeclaredMethods()) {
-                holds("rule 1: name of " + method, !names.contains(method.getName()));
+                holds("rule 1: name of " + method, !Modifier.isPrivate(method.getModifiers()) || !names.contains(method.getName()));
+                holds("rule 6: name of " + method, one.isRecord() || !OF_OBJECTS.contains(signature(method)));
                 holds("rule 11: parameters of " + method, method.getParameterCount() <= 7);
             }
         }
@@ -106,21 +114,24 @@ public final class LanguageTest {
 
     private static void words(String code) {
         String[] ruledOut = {
-            "\\bimport\\b", "\\bpackage\\b", "\\bthrows?\\b", "\\btry\\b", "\\bcatch\\b", "\\bfinally\\b",
-            "\\bsynchronized\\b", "\\bassert\\b", "\\binstanceof\\b", "->", "::", "\\w+Exact\\b", "\\bdouble\\b",
-            "\\bfloat\\b", "\\bObject\\b", "\\bSystem\\b", "\\bThread\\b", "\\bRandom\\b", "\\bnative\\b", "\"", "\\bnull\\b",
+            "\\bpackage\\b", "\\bthrows?\\b", "\\btry\\b", "\\bcatch\\b", "\\bfinally\\b", "\\bsynchronized\\b",
+            "\\bassert\\b", "::", "\\w+Exact\\b", "\\bObject\\b", "\\bThread\\b", "\\bRandom\\b", "\\bnative\\b",
+            "\\bstatic \\{",
         };
         for (String word : ruledOut) {
             holds("no " + word, !Pattern.compile(word).matcher(code).find());
         }
         for (String line : code.split("\n")) {
-            boolean makes = line.contains("new ");
-            boolean once = line.contains("private final") || line.trim().startsWith("numbers = new int[");
-            holds("rule 12: made once, " + line.trim(), !makes || once);
+            holds("rule 2: no lambda, " + line.trim(), !line.contains("->") || line.trim().matches("(case|default) .*"));
         }
-        Matcher library = Pattern.compile("\\b(Math|Integer|Long|Arrays|String)\\b\\.(\\w+)").matcher(code);
-        while (library.find()) {
-            holds("rule 4: " + library.group(), Set.of("min", "max", "abs", "bitCount").contains(library.group(2)));
+        Matcher imported = Pattern.compile("\\bimport ([^;]*);").matcher(code);
+        while (imported.find()) {
+            String name = imported.group(1);
+            holds("rule 4: import " + name, name.startsWith("java.util.") && IMPORTS.contains(name.substring(10)));
+        }
+        Matcher asked = Pattern.compile("\\b(Math|Integer|Long|System|Arrays|List|Runtime|Objects)\\.\\w+").matcher(code);
+        while (asked.find()) {
+            holds("rule 4: " + asked.group(), LISTED.matcher(asked.group()).matches());
         }
     }
 

@@ -9,7 +9,10 @@ import java.util.List;
 
 /** Runs the tests of sentences that stand in a class, each by itself, and looks whether the document says them. */
 final class Sentences {
-    private static final Path DOCUMENT = Path.of("../shared/DOC.md");
+    static final Path DOCUMENT = Path.of("../shared/DOC.md");
+    /** All that are made of tests of sentences. */
+    static final List<Class<?>> TESTS = List.of(TermsTest.class, PromisesTest.class, LettingEdgesTest.class,
+        ActsEdgesTest.class, WorthsEdgesTest.class, PricesEdgesTest.class, ToldEdgesTest.class, SlotsEdgesTest.class);
 
     private Sentences() {
     }
@@ -66,7 +69,7 @@ final class Sentences {
         }
     }
 
-    private static String withSingleBlanks(String text) {
+    static String withSingleBlanks(String text) {
         return text.replaceAll("\\s+", " ");
     }
 }
